@@ -432,7 +432,7 @@ public final class HueWar {
   }
 
   private static boolean isQuarter(int quarter) {
-    return isAmong(quarter, QUARTERS);
+    return quarter >= 0 && quarter < QUARTERS;
   }
 
   private static boolean isPlace(int x, int y) {
@@ -731,7 +731,9 @@ public final class HueWar {
     }
 
     void fail(int number) {
-      failAt(number, place);
+      if (fault == 0) {
+        fault = -1000 * number - place;
+      }
     }
 
     void failAt(int number, int where) {
@@ -1588,7 +1590,7 @@ public final class HueWar {
     private final Palette palette;
     private final Law law;
     private final State state;
-    private final int[] looks = new int[COLOURS + 1];
+    private final int[] looks = new int[COLOURS];
 
     Eyes(Palette palette, Law law, State state) {
       this.palette = palette;
@@ -1636,7 +1638,6 @@ public final class HueWar {
     /** Looks at all COLOURS; looks() and alike() tell of the last time. */
     void look(int e, int quarter) {
       int seen = seenWith(e, quarter, state.had(e, quarter));
-      looks[ASH] = ASH;
       for (int c = 0; c < COLOURS; c++) {
         if (bit(seen, c) == 1) {
           looks[c] = c;
