@@ -578,13 +578,12 @@ final class Model {
     }
   }
 
-  /** plain: the plain ones seen; null: those that it HAS. */
-  private boolean isSeen(int e, int c, int quarter, Set<Integer> plain) {
+  private boolean isSeen(int e, int c, int quarter) {
     if (!mixed(c)) {
-      return plain != null ? plain.contains(c) : has.contains(List.of(c, quarter, e));
+      return has.contains(List.of(c, quarter, e));
     }
-    boolean a = isSeen(e, colours.get(c)[0], quarter, plain);
-    boolean b = isSeen(e, colours.get(c)[1], quarter, plain);
+    boolean a = isSeen(e, colours.get(c)[0], quarter);
+    boolean b = isSeen(e, colours.get(c)[1], quarter);
     if (!hasKind('s')) {
       return a && b;
     }
@@ -592,10 +591,6 @@ final class Model {
     letters.put('a', a ? 1 : 0);
     letters.put('b', b ? 1 : 0);
     return holds('s', letters);
-  }
-
-  private boolean isSeen(int e, int c, int quarter) {
-    return isSeen(e, c, quarter, null);
   }
 
   private int look(int e, int c, int quarter) {
@@ -687,11 +682,14 @@ final class Model {
     return what == 0 ? (bestSeen == 0 ? bestSteps : -2) : what == 1 ? bestSeen : bestSteps;
   }
 
-  private int worthWith(int e, int quarter, Set<Integer> plain) {
+  int worth(int e, int quarter) {
+    if (!in(e, 0, 5) || !in(quarter, 0, 3)) {
+      return -1;
+    }
     int sum = 0;
     for (int field = 0; field < 64; field++) {
       int c = land[field];
-      if (owners[field] == e && c != 12 && isSeen(e, c, quarter, plain)) {
+      if (owners[field] == e && c != 12 && isSeen(e, c, quarter)) {
         Map<Character, Integer> letters = letters(e, c, quarter);
         int like = 0;
         for (int other = 0; other < 64; other++) {
@@ -704,8 +702,16 @@ final class Model {
     return sum;
   }
 
-  int worth(int e, int quarter) {
-    return !in(e, 0, 5) || !in(quarter, 0, 3) ? -1 : worthWith(e, quarter, null);
+  /** WORTH, if it HAD just these plain ones in that QUARTER; the other EMPIRES HAVE what they HAVE. */
+  private int worthIfIt(int e, int quarter, Set<Integer> plain) {
+    Object[] before = state();
+    has.removeIf(h -> h.get(1) == quarter && h.get(2) == e);
+    for (int c : plain) {
+      has.add(List.of(c, quarter, e));
+    }
+    int worth = worth(e, quarter);
+    setState(before);
+    return worth;
   }
 
   int gain(int e, int c, int quarter) {
@@ -749,7 +755,7 @@ final class Model {
       Set<Integer> after = new HashSet<>(order.subList(0, order.indexOf(c) + 1));
       for (Set<Integer> group : List.of(before, after)) {
         if (!worths.containsKey(group)) {
-          worths.put(group, worthWith(e, quarter, group));
+          worths.put(group, worthIfIt(e, quarter, group));
         }
       }
       sum += worths.get(after) - worths.get(before);

@@ -933,9 +933,20 @@ public final class PromisesTest {
     powers(war, 4, 3, 0, 9, 2);
     powers(war, 4, 3, 1, -9, 2);
     powers(war, 4, 8, 3, 0, 1);
-    // what they HAVE stays: g is 2
+    // with a group seen, the EMPIRE is one of those that HAVE each of it: g is 3
     Due.law(war, "v10*g(1=1)");
-    powers(war, 4, 1, 0, 20, 1);
+    powers(war, 4, 1, 0, 30, 1);
+    powers(war, 4, 3, 0, 30, 1);
+    powers(war, 4, 3, 1, 30, 1);
+    is("nobody else HAS it then", war.power(1, 0, 4, 1, 0), 10);
+    is("what they HAVE stays", war.count(100), 3);
+    is("what they HAVE stays", war.count(104), 5);
+    // one that HAS it is not counted twice, and one that it HAS beyond the group is not seen
+    war.owner(0, 0, 0);
+    war.owner(1, 0, 0);
+    powers(war, 0, 1, 0, 20, 1);
+    war.owner(0, 0, 4);
+    war.owner(1, 0, 4);
     is("nobody's fields", war.power(3, 0, 0, 0, 0), 0);
     is("nobody's fields", war.power(3, 0, 0, 0, 1), 1);
     for (int set : new int[] {0, -1, MIN, 4, 5, 33, 4096, 4097}) {

@@ -1688,15 +1688,19 @@ public final class HueWar {
     }
 
     int worthTo(int e, int quarter) {
-      price(e, quarter);
+      price(e, quarter, 0);
       return worthWith(e, quarter, state.had(e, quarter));
     }
 
-    /** Tells what all fields of a COLOUR that the EMPIRE owns are worth together, if it sees it. */
-    void price(int e, int quarter) {
+    /**
+     * Tells what all fields of a COLOUR that the EMPIRE owns are worth together, if it sees it; of supposed COLOURS
+     * the EMPIRE counts as one that HAS them.
+     */
+    void price(int e, int quarter, int supposed) {
       for (int c = 0; c < COLOURS; c++) {
         int fields = fieldsOf(e, c);
-        prices[c] = fields > 0 ? fields * priceOf(e, c, quarter, fields) : 0;
+        int havers = state.havers(c, quarter) | bit(supposed, c) << e;
+        prices[c] = fields > 0 ? fields * priceOf(e, c, quarter, fields, Integer.bitCount(havers)) : 0;
       }
     }
 
@@ -1710,9 +1714,9 @@ public final class HueWar {
       return fields;
     }
 
-    private int priceOf(int e, int c, int quarter, int fields) {
+    private int priceOf(int e, int c, int quarter, int fields, int havers) {
       int mixed = palette.isMixed(c) ? 1 : 0;
-      law.tell(e, c, quarter, state.day(), mixed, Integer.bitCount(state.havers(c, quarter)));
+      law.tell(e, c, quarter, state.day(), mixed, havers);
       law.tellFields(fields);
       return law.amount('v', MOST_WORTH);
     }
@@ -1734,7 +1738,8 @@ public final class HueWar {
 
     /** What c adds when it comes, over all orders of the COLOURS together. */
     int addedBy(int colours, int c, int e, int quarter) {
-      price(e, quarter);
+      // what is seen is had: with a COLOUR of them in a group the EMPIRE is one of those that HAVE it
+      price(e, quarter, colours);
       int rest = colours & ~(1 << c);
       int others = Integer.bitCount(rest);
       int sum = 0;
@@ -1785,13 +1790,13 @@ public final class HueWar {
       choicesOfA = hadByB & ~hadByA;
       choicesOfB = hadByA & ~hadByB;
       // as many EMPIRES have each COLOUR behind it as ahead of it, so that prices stay
-      purse.price(a, quarter);
+      purse.price(a, quarter, 0);
       for (int two = 0; two < COLOURS * COLOURS; two++) {
         if (isChosen(two)) {
           worthsOfA[two] = purse.worthWith(a, quarter, (hadByA | taken(two)) & ~lost(two));
         }
       }
-      purse.price(b, quarter);
+      purse.price(b, quarter, 0);
       for (int two = 0; two < COLOURS * COLOURS; two++) {
         if (isChosen(two)) {
           worthsOfB[two] = purse.worthWith(b, quarter, (hadByB | lost(two)) & ~taken(two));
