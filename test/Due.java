@@ -29,6 +29,23 @@ final class Due {
     }
   }
 
+  /** A new war with these plain COLOURS. */
+  static HueWar plain(int... colours) {
+    HueWar war = new HueWar();
+    for (int c : colours) {
+      war.colour(c, HueWar.NONE, HueWar.NONE);
+    }
+    return war;
+  }
+
+  /** A new war: plain COLOURS 0, 1, 3; 2 is mixed of 0 and 1, 4 of 2 and 3. */
+  static HueWar mixed() {
+    HueWar war = plain(0, 1, 3);
+    war.colour(2, 0, 1);
+    war.colour(4, 2, 3);
+    return war;
+  }
+
   /** Twenty bytes a call; what is left over is 0. */
   static void feed(HueWar war, int... bytes) {
     for (int at = 0; at < bytes.length; at += 20) {
