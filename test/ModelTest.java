@@ -1,9 +1,11 @@
 import java.util.Random;
 
-/** Random calls, each answered by HueWar as by the Model, and the whole state alike behind each run. */
+/** Random calls, each answered by HueWar as by the Model; nothing is promised behind the 512th call of a run. */
 public final class ModelTest {
-  private static final int RUNS = 400;
-  private static final int CALLS = 150;
+  private static final int RUNS = 600;
+  /** Behind so many calls one more step, which takes 20 calls at most, and what state() asks are left. */
+  private static final int CALLS = 360;
+  private static final int LAST_CALLS = 500;
 
   private final Random random;
   private final HueWar war = new HueWar();
@@ -11,6 +13,7 @@ public final class ModelTest {
   private final Due due;
   private final int run;
   private int told = 0;
+  private int calls = 0;
 
   private ModelTest(int run, Due due) {
     this.run = run;
@@ -29,18 +32,25 @@ public final class ModelTest {
 
   private void go() {
     begin();
-    for (int i = 0; i < CALLS; i++) {
+    while (calls < CALLS) {
       call();
     }
     state();
   }
 
   private void is(String call, long got, long want) {
+    calls++;
     due.is("run " + run + ": " + call, got, want);
   }
 
   private void is(String call, boolean got, boolean want) {
+    calls++;
     due.is("run " + run + ": " + call, got, want);
+  }
+
+  private int count(int what) {
+    calls++;
+    return war.count(what);
   }
 
   // -- what is drawn --
@@ -180,7 +190,7 @@ public final class ModelTest {
   private String likelyLine() {
     int c = random.nextInt(12);
     int q = random.nextInt(4);
-    int havers = Math.max(0, war.count(100 + 4 * c + q));
+    int havers = Math.max(0, count(100 + 4 * c + q));
     int giver = random.nextInt(6);
     int other = random.nextInt(6);
     for (int i = 0; i < 6 && (havers >> giver & 1) == 0; i++) {
@@ -253,13 +263,14 @@ public final class ModelTest {
         tellColour(c, first, second);
       }
     }
-    for (int c = 0; c < 12; c++) {
-      for (int q = 0; q < 4; q++) {
-        int empires = empires();
-        is("have", war.have(c, q, empires), model.have(c, q, empires));
-      }
+    for (int i = 0; i < 40; i++) {
+      int c = random.nextInt(12);
+      int q = random.nextInt(4);
+      int empires = empires();
+      is("have", war.have(c, q, empires), model.have(c, q, empires));
     }
-    for (int field = 0; field < 64; field++) {
+    for (int i = 0; i < 40; i++) {
+      int field = random.nextInt(64);
       int empire = random.nextInt(7);
       is("owner", war.owner(field % 8, field / 8, empire), model.owner(field % 8, field / 8, empire));
     }
@@ -269,7 +280,7 @@ public final class ModelTest {
 
   private void tellColour(int c, int first, int second) {
     is("colour " + c + " " + first + " " + second, war.colour(c, first, second), model.colour(c, first, second));
-    told = war.count(0);
+    told = count(0);
   }
 
   private void call() {
@@ -316,7 +327,7 @@ public final class ModelTest {
     int n = of(9);
     int[] bytes = new int[32];
     for (int i = 0; i < 8; i++) {
-      bytes[4 * i + 3] = luck(95) ? war.count(300 + i) : random.nextInt(256);
+      bytes[4 * i + 3] = luck(95) ? count(300 + i) : random.nextInt(256);
       bytes[4 * i + random.nextInt(3)] = luck(98) ? 0 : 1;
     }
     feed(bytes);
@@ -354,7 +365,7 @@ public final class ModelTest {
       case 0: is("worth", war.worth(e, q), model.worth(e, q)); break;
       case 1: is("gain", war.gain(e, c, q), model.gain(e, c, q)); break;
       case 2:
-        set = luck(90) ? set & war.count(0) & ~war.count(1) : set;
+        set = luck(90) ? set & told & ~count(1) : set;
         for (int member = 0; member < 12; member++) {
           if ((set >> member & 1) == 1) {
             is("power " + set + " " + member, war.power(set, member, e, q, what), model.power(set, member, e, q, what));
@@ -416,13 +427,12 @@ public final class ModelTest {
   }
 
   private void state() {
-    for (int what = -2; what < 400; what++) {
+    while (calls < LAST_CALLS) {
+      int what = luck(10) ? of(8) : luck(10) ? 10 + of(13) : luck(50) ? 100 + of(49) : 200 + of(165);
+      int i = luck(90) ? of(Math.max(1, model.count(6))) : of(17);
+      int part = of(7);
       is("count " + what, war.count(what), model.count(what));
-    }
-    for (int i = -1; i < 17; i++) {
-      for (int what = -1; what < 7; what++) {
-        is("treatyIs " + i + " " + what, war.treatyIs(i, what), model.treatyIs(i, what));
-      }
+      is("treatyIs " + i + " " + part, war.treatyIs(i, part), model.treatyIs(i, part));
     }
   }
 }
