@@ -16,6 +16,7 @@ public final class LawEdgesTest {
     bytesOfALaw();
     firstBytesOfTheTape();
     inPlaceOfTheOneBefore();
+    inPlaceOfLongerOnes();
     theOneBeforeStays();
     noBlanks();
     sixteenClauses();
@@ -153,6 +154,22 @@ public final class LawEdgesTest {
     is("one", Due.law(war, "v5(1=2)"), 1);
     is("CLAUSES", war.count(2), 1);
     is("those of before are gone", war.worth(0, 0), 0);
+  }
+
+  private void inPlaceOfLongerOnes() {
+    HueWar war = landOfOne();
+    for (int i = 0; i < 9; i++) {
+      is("239 bytes", Due.law(war, "v" + i + "(" + "1=2|".repeat(58) + "1=1)"), 1);
+      is("worth", war.worth(0, 0), i);
+    }
+    is("two", Due.law(war, "v1(1=2);v3+1(1=1)"), 2);
+    is("worth", war.worth(0, 0), 4);
+    is("one", Due.law(war, "v5(1=2&9=9&1=1)"), 1);
+    is("worth", war.worth(0, 0), 0);
+    is("a FAULT at its end", Due.law(war, "v7(1=1);v8(1=1);v9(1=1"), -1022);
+    is("worth", war.worth(0, 0), 0);
+    is("two", Due.law(war, "v5(1=2&9=9&1=1);v6(1=1)"), 2);
+    is("worth", war.worth(0, 0), 6);
   }
 
   /** Promise 6: "a FAULT: .. (the one before stays)". */
@@ -508,6 +525,11 @@ public final class LawEdgesTest {
     holds("1>2", false);
     holds("2=2", true);
     holds("1=2", false);
+    holds("!1<2", false);
+    holds("!2>1", false);
+    holds("!2=2", false);
+    holds("!!1<2", true);
+    holds("!1>2", true);
     holds("0-1<0", true);
     holds("0-1>0-2", true);
     holds("0-1=1-2", true);

@@ -32,6 +32,7 @@ public final class SignsEdgesTest {
     noTwoAtAll();
     worthThen();
     whoHasItInABattle();
+    choicesThatWere();
     whatOfABattle();
     bytesOfSpies();
     noSuchOnesShown();
@@ -49,6 +50,8 @@ public final class SignsEdgesTest {
     firstNumberNotSo();
     countOfWhat();
     countOfParts();
+    mixedByTheLaw();
+    worthByTheLaw();
     due.end();
   }
 
@@ -454,6 +457,22 @@ public final class SignsEdgesTest {
     is("nothing is changed", war.count(108), 1);
   }
 
+  /** What was a choice once is none any more, however much WORTH it had then. */
+  private void choicesThatWere() {
+    HueWar war = field();
+    paint(war, "defabc..", "00011166");
+    Due.law(war, "v5(c=1|c=4);v9(c=2|c=5);v1(1=1)");
+    battle(war, 0, 1, 2, 1, 5, 2);
+    war.have(5, 2, 3);
+    war.have(2, 2, 3);
+    battle(war, 0, 1, 2, 1, 4, 1);
+    battle(war, 1, 0, 2, 1, 1, 4);
+    war.have(4, 2, 0);
+    war.have(1, 2, 0);
+    battle(war, 0, 1, 2, 1, 3, 0);
+    battle(war, 0, 1, 3, 0, -2, -2);
+  }
+
   /** Promise 23: "NONE: no such ones, one twice". */
   private void whatOfABattle() {
     HueWar war = field();
@@ -754,5 +773,71 @@ public final class SignsEdgesTest {
     }
     is("told", war.count(0), 7 + 512 + 1024 + 2048);
     is("mixed", war.count(1), 4 + 2048);
+  }
+
+  /** Mixed COLOUR 2, of 0 and 1, is seen by EMPIRE 3 at noon, but not by EMPIRE 1 at night, though they have alike. */
+  private static HueWar noon() {
+    HueWar war = Due.plain(0, 1);
+    war.colour(2, 0, 1);
+    war.have(0, 1, 8);
+    war.have(0, 3, 2);
+    war.owner(0, 0, 3);
+    war.owner(1, 0, 1);
+    Due.land(war, Due.land("ccaa4."));
+    Due.law(war, "s(e=3&q=1&c=2&a=1);v7(c=2);v1(1=1)");
+    return war;
+  }
+
+  /** "a mixed one by THE LAW: if a CLAUSE s holds", by e and q, in all that asks what is seen. */
+  private void mixedByTheLaw() {
+    HueWar war = noon();
+    is("sees", war.sees(3, 2, 1), 1);
+    is("sees", war.sees(1, 2, 3), 0);
+    is("appears", war.appears(3, 2, 1), 2);
+    is("appears", war.appears(1, 2, 3), 0);
+    is("child", war.child(3, 1, 2, 1), 1);
+    is("child", war.child(1, 3, 2, 3), 0);
+    is("unseen", war.unseen(0, 0, 0, 3, 1), 0);
+    is("unseen", war.unseen(0, 0, 0, 1, 3), 1);
+    is("way", war.way(0, 3, 2, 3, 1, 0), -2);
+    is("way", war.way(0, 3, 2, 1, 3, 0), 3);
+    is("signals", war.signals(2, 8, 0, 1, 1), 5);
+    is("signals", war.signals(2, 2, 0, 3, 1), -2);
+    is("signals", war.signals(2, 8, 2, 1, 1), 5);
+    is("painting", war.painting(4, 0), 1);
+    is("painting", war.painting(4, 1), 3);
+    is("painting", war.painting(4, 2), 1);
+    is("ash", war.ash(3, 1, 0), 60);
+    is("ash", war.ash(1, 3, 0), 60);
+    Due.law(war, "s(e=3&q=1)");
+    war.have(0, 1, 0);
+    war.have(0, 3, 0);
+    is("ash", war.ash(3, 1, 0), 62);
+    is("ash", war.ash(1, 3, 0), 64);
+    is("spies", Due.spies(war, 0, 2, 1, 1), 8);
+    is("spies", Due.spies(war, 0, 2, 3, 1), 0);
+  }
+
+  private void worthByTheLaw() {
+    HueWar war = noon();
+    is("worth", war.worth(3, 1), 7);
+    is("worth", war.worth(1, 3), 0);
+    is("power", war.power(1, 0, 3, 1, 0), 7);
+    is("power", war.power(1, 0, 1, 3, 0), 0);
+    is("power of 1", war.power(3, 1, 3, 1, 0), 0);
+    war.have(0, 1, 4);
+    war.have(0, 3, 4);
+    war.have(1, 1, 2 + 8);
+    war.have(1, 3, 2 + 8);
+    war.colour(3, -1, -1);
+    war.have(3, 1, 4);
+    war.have(3, 3, 4);
+    is("gain", war.gain(3, 0, 1), 7);
+    is("gain", war.gain(1, 0, 3), 0);
+    // 2 HAS 0 and 3; 0 alone lets 3 see its field at noon
+    battle(war, 3, 2, 1, 1, 0, 1);
+    battle(war, 2, 3, 1, 1, 1, 0);
+    battle(war, 1, 2, 3, 2, 0, 1);
+    battle(war, 2, 1, 3, 2, 1, 0);
   }
 }
