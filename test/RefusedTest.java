@@ -53,6 +53,8 @@ public final class RefusedTest {
     noneAheadOfAFault();
     noneAheadOfNothing();
     faultAheadOfNothing();
+    memoryOfItsOwn();
+    the512thCall();
     due.end();
   }
 
@@ -486,5 +488,41 @@ public final class RefusedTest {
     is("none can be, and a FAULT", Due.treaties(other, "0@0>01,0@0>0"), -1012);
     is("none can be", Due.judged(other, "0@0>01,0@0>02"), 0);
     is("none can be", Due.treaties(other, "0@0>01,0@0>02"), 0);
+  }
+
+  /** "All memory is the war's own". */
+  private void memoryOfItsOwn() {
+    HueWar first = world();
+    HueWar second = new HueWar();
+    int[] counts = {0, 0, 0, 0, 1, 0, 0};
+    for (int what = 0; what < counts.length; what++) {
+      is("a new war beside another one", second.count(what), counts[what]);
+    }
+    is("nothing is KEPT", second.undo(), false);
+    second.colour(0, -1, -1);
+    second.have(0, 0, 63);
+    Due.law(second, "s(1=2)");
+    Due.land(second, Due.land("8a"));
+    second.owner(0, 0, 1);
+    second.seed(9);
+    second.keep();
+    second.days(9);
+    Due.feed(second, 9);
+    is("the first one is as it was", Arrays.equals(whole(first), whole(world())), true);
+    is("the second one is as it was", second.count(5), 9);
+  }
+
+  /** "An object is used for at most 512 calls after it has been made". */
+  private void the512thCall() {
+    HueWar other = Due.plain(0);
+    for (int call = 2; call <= 511; call++) {
+      other.have(0, call % 4, call % 64);
+    }
+    is("511", other.count(103), 63);
+    HueWar last = Due.plain(0);
+    for (int call = 2; call <= 511; call++) {
+      last.days(99);
+    }
+    is("DAY 9999", last.count(5), 9999);
   }
 }
